@@ -66,6 +66,12 @@ public final class AccountsTest {
             "bring(1) = 26; bring(1) = 27; account(10) = 7; bring(1) = 28; account(10) = 8; bring(1) = 29; account(10) = 8",
             "bring(1) = 30; undo() = 7; account(2) = 29; undo() = 6; undo() = 5; undo() = 4; undo() = 3; undo() = 2; undo() = 1",
             "account(2) = 23; undo() = 0; account(2) = 22; undo() = throws IllegalStateException; account(2) = 22");
+        Script.check("34, undo of the latest 8 of many",
+            "bring(1) = 21; bring(1) = 22; bring(1) = 23; bring(1) = 24; bring(1) = 25; bring(1) = 26; bring(1) = 27",
+            "bring(1) = 28; bring(1) = 29; bring(1) = 30; bring(1) = 31; bring(1) = 32; bring(1) = 33; bring(1) = 34",
+            "undo() = 7; account(2) = 33; undo() = 6; account(2) = 32; undo() = 5; account(2) = 31; undo() = 4; account(2) = 30",
+            "bring(9) = 39; bring(9) = 48; undo() = 5; account(2) = 39; undo() = 4; account(2) = 30; undo() = 3; account(2) = 29",
+            "undo() = 2; account(2) = 28; undo() = 1; account(2) = 27; undo() = 0; account(2) = 26; account(10) = 0");
         Script.check("34, undo and new changes",
             "bring(1) = 21; bring(2) = 23; undo() = 1; bring(3) = 24; undo() = 1; account(2) = 21; waiter(2) = 0; bring(4) = 25",
             "undo() = 2; undo() = 1; account(3) = 0; account(2) = 21; undo() = 0; account(2) = 20");

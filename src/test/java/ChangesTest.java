@@ -9,6 +9,7 @@ public final class ChangesTest {
         join();
         joinRefused();
         leave();
+        oneLadleHeld();
         leaveTakesAllWithIt();
         manner();
         mannerOfWhoHoldsALadle();
@@ -65,6 +66,13 @@ public final class ChangesTest {
             "leave() = 1; leave() = 0; leave() = throws UnsupportedOperationException; account(10) = 4");
         Script.check("3, leave while ladles are held", LEFT_HANDED_THREE,
             "leave() = throws UnsupportedOperationException; reasons() = \"4 3 0\"; account(1) = 3");
+    }
+
+    private static void oneLadleHeld() {
+        Script.check("2 and 3, while just one ladle is held",
+            "join(0, 1, 1) = 0; join(1, 1, 1) = 1; pass(99) = 20; account(6) = 1",
+            "join(0, 1, 1) = throws UnsupportedOperationException; reasons() = \"4 1 0\"; bring(1) = 1",
+            "leave() = throws UnsupportedOperationException; reasons() = \"4 1 0\"; account(1) = 2");
     }
 
     private static void leaveTakesAllWithIt() {

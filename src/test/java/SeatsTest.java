@@ -94,6 +94,9 @@ public final class SeatsTest {
     }
 
     private static void askersAndStuckSeats() {
+        Script.check("17 and 18, the only one with leave eats",
+            "join(0, 1, 9) = 0; join(0, 1, 9) = 1; join(0, 1, 9) = 2; waiter(1) = 0; pass(1) = 0; written() = \"0l2 1l? 2l?\"",
+            "ring() = 0; stuck() = 0; stuckAgain() = 0; pass(9) = 1; written() = \"0l. 1l2 2l?\"; stuck() = 0; stuckAgain() = 0");
         Script.check("17 and 18, those that ask are not stuck while one with leave can go on",
             "join(0, 1, 9) = 0; join(0, 1, 9) = 1; join(0, 1, 9) = 2; waiter(2) = 0; pass(1) = 0; written() = \"0l2 1l_ 2l?\"",
             "stuck() = 0; stuckAgain() = 0; waiter(1) = 2; stuck() = 0; stuckAgain() = 0; waiter(8) = 1; stuck() = 0",

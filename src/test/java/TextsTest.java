@@ -8,6 +8,7 @@ public final class TextsTest {
         allOrNone();
         numbersOutOfRange();
         faults();
+        faultsAfterLongerTexts();
         texts();
         faultPosition();
         reason();
@@ -94,6 +95,14 @@ public final class TextsTest {
                 "say(\"" + text + "\") = throws IllegalArgumentException; faultPosition() = " + fault + "; account(11) = 0",
                 "reason(0) = throws NoSuchElementException; accounts() = \"0 0 20 0 0 0 0 0 0 0 0 0\"");
         }
+    }
+
+    private static void faultsAfterLongerTexts() {
+        Script.check("27, what an earlier text had there does not count",
+            "say(\"m0l;t9\") = throws UnsupportedOperationException; say(\"m0\") = throws IllegalArgumentException",
+            "faultPosition() = 2; say(\"m0r;t9\") = throws UnsupportedOperationException",
+            "say(\"m0\") = throws IllegalArgumentException; faultPosition() = 2; say(\"p11;p22\") = 2; say(\"p1\") = 1",
+            "account(2) = 54; say(\"p\") = throws IllegalArgumentException; faultPosition() = 1");
     }
 
     private static void texts() {
