@@ -37,7 +37,7 @@ public final class SoupTable {
     private static final int NOT_ONE_LADLE = 6;
     private static final int SO_ALREADY = 7;
 
-    // The kinds of changes are the places of their signs here.
+    // The kinds of commands are the places of their signs here.
     private static final String SIGNS = "+-mkwpdt";
     private static final int JOIN = 0;
     private static final int LEAVE = 1;
@@ -70,35 +70,43 @@ public final class SoupTable {
     }
 
     public int join(int manner, int think, int eat) throws UnsupportedOperationException {
-        return change(JOIN, manner, think, eat);
+        before.copyFrom(table);
+        return kept(table.addSeat(manner, think, eat, refusal));
     }
 
     public int leave() throws UnsupportedOperationException {
-        return change(LEAVE, 0, 0, 0);
+        before.copyFrom(table);
+        return kept(table.removeSeat(refusal));
     }
 
     public int manner(int seat, int manner) throws UnsupportedOperationException {
-        return change(MANNER, seat, manner, 0);
+        before.copyFrom(table);
+        return kept(table.setManner(seat, manner, refusal));
     }
 
     public int clocks(int seat, int think, int eat) throws UnsupportedOperationException {
-        return change(CLOCKS, seat, think, eat);
+        before.copyFrom(table);
+        return kept(table.setClocks(seat, think, eat, refusal));
     }
 
     public int waiter(int number) throws UnsupportedOperationException {
-        return change(WAITER, number, 0, 0);
+        before.copyFrom(table);
+        return kept(table.setWaiter(number, refusal));
     }
 
     public int bring(int bowls) throws UnsupportedOperationException {
-        return change(BRING, bowls, 0, 0);
+        before.copyFrom(table);
+        return kept(table.addBowls(bowls, refusal));
     }
 
     public int take(int seat) throws UnsupportedOperationException {
-        return change(TAKE, seat, 0, 0);
+        before.copyFrom(table);
+        return kept(table.takeAway(seat, refusal));
     }
 
     public int pass(int ticks) throws UnsupportedOperationException {
-        return change(PASS, ticks, 0, 0);
+        before.copyFrom(table);
+        return kept(table.passTicks(ticks, refusal));
     }
 
     public int seatOf(int seat, int what) throws IndexOutOfBoundsException, IllegalArgumentException {
@@ -233,7 +241,7 @@ public final class SoupTable {
         boolean isRefused = false;
         text.place = 0;
         while (done < MOST_SIGNS && !isRefused && text.readsCommand()) {
-            isRefused = table.obey(text.kind, text.numbers[0], text.numbers[1], text.numbers[2], refusal) == REFUSED;
+            isRefused = table.obey(text, refusal) == REFUSED;
             text.skipSemicolon();
             done++;
         }
@@ -341,9 +349,7 @@ public final class SoupTable {
         return table.count;
     }
 
-    private int change(int kind, int one, int two, int three) {
-        before.copyFrom(table);
-        int answer = table.obey(kind, one, two, three, refusal);
+    private int kept(int answer) {
         if (answer == REFUSED) {
             refusal.command = 0;
             throw new UnsupportedOperationException("the change is refused");
@@ -503,9 +509,12 @@ public final class SoupTable {
             ladlesTaken = other.ladlesTaken;
         }
 
-        /** Carries out a change; if it is refused, nothing but the refusal is written. */
-        int obey(int kind, int one, int two, int three, Refusal refusal) {
-            switch (kind) {
+        /** As of all the changes: if it is refused, nothing but the refusal is written. */
+        int obey(Text text, Refusal refusal) {
+            int one = text.numbers[0];
+            int two = text.numbers[1];
+            int three = text.numbers[2];
+            switch (text.kind) {
                 case JOIN: return addSeat(one, two, three, refusal);
                 case LEAVE: return removeSeat(refusal);
                 case MANNER: return setManner(one, two, refusal);
