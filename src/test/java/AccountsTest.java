@@ -54,6 +54,9 @@ public final class AccountsTest {
             "accounts() = \"0 2 20 0 0 0 0 0 0 0 2 0\"; seat(0) = \"0 1 1 0 1 0 0 0 0 0\"; seat(1) = \"0 1 1 0 1 0 0 0 0 0\"",
             "pass(22) = 20; take(0) = 1; undo() = 3; account(9) = 0; holder(1) = 0; ring() = 3; seatOf(0, 3) = 3",
             "say(\"d0;d1;-;-\") = 4; undo() = 3; accounts() = \"22 2 0 0 20 20 2 2 0 0 3 0\"; holder(0) = 1; ring() = 3");
+        Script.check("34, undo of one of several changes of a kind",
+            "waiter(1) = 0; waiter(3) = 1; waiter(2) = 3; undo() = 2; account(3) = 3; undo() = 1; account(3) = 1; undo() = 0",
+            "account(3) = 0");
         Script.check("34, undo gives the queue and the waits back",
             "join(0, 2, 9) = 0; join(0, 1, 9) = 1; join(0, 2, 9) = 2; join(0, 1, 9) = 3; waiter(1) = 0; pass(2) = 0",
             "asking(0) = 3; asking(1) = 0; asking(2) = 2; pass(50) = 5; undo() = 6; asking(0) = 3; asking(1) = 0; asking(2) = 2",
