@@ -8,6 +8,7 @@ import java.util.List;
  * Besides the calls of the face: type("ab") appends the characters and answers the last length; say("ab") does that and
  * calls commands; written() writes the line and answers its characters; reasons() answers the three numbers of the
  * reason; accounts() the twelve accounts; seat(k) the ten numbers of a seat; each of these answers a text in "".
+ * The result "refused 2 8 0" stands for "throws UnsupportedOperationException" and these numbers of the reason.
  */
 final class Script {
     private static int wrong = 0;
@@ -52,7 +53,14 @@ final class Script {
         }
         String name = text.substring(0, open);
         List<String> arguments = split(text.substring(open + 1, equals), ',');
-        same(title + ": " + text, answer(name, arguments), text.substring(equals + 4));
+        String answer = answer(name, arguments);
+        boolean isRefused = answer.equals("throws UnsupportedOperationException");
+        String due = text.substring(equals + 4);
+        same(title + ": " + text, isRefused && due.startsWith("refused ") ? refusal() : answer, due);
+    }
+
+    private String refusal() {
+        return "refused " + table.reason(0) + ' ' + table.reason(1) + ' ' + table.reason(2);
     }
 
     private String answer(String name, List<String> arguments) {
